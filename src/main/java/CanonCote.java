@@ -453,7 +453,8 @@ public final class CanonCote {
      * equally many places next to each other.
      *
      * <p>Of twins that share a cell only the lowest is tried: exchanging twins changes no code. So
-     * of the best arrangements the search meets one for each way to permute twins among themselves.
+     * of best arrangements that differ by exchanges of twins alone the search meets just one: the
+     * one that puts the lower twins onto the lower places.
      */
     private static final class Arranging {
         private static final int LOWEST_COLOUR_BIT = 28;

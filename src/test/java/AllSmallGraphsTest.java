@@ -31,24 +31,7 @@ final class AllSmallGraphsTest {
                 pair++;
             }
         }
-        compareWhole(size + " vertices, edges " + edges + ", ", cote, graph);
-    }
-
-    private static void compareWhole(String name, CanonCote cote, NaiveGraph graph) {
-        int[] refined = graph.refined();
-        int[] places = graph.places();
-        int[] orbits = graph.orbits();
-        CHECK.due(name + "classes", cote.classes(2), refined[graph.size]);
-        CHECK.due(name + "rounds", cote.rounds(2), refined[graph.size + 1]);
-        CHECK.due(name + "form", cote.form(2), graph.form());
-        CHECK.due(name + "symmetries", cote.symmetries(2), graph.symmetries());
-        CHECK.due(name + "orbits", cote.orbits(2), java.util.Arrays.stream(orbits).distinct().count());
-        for (int v = 0; v < graph.size; v++) {
-            CHECK.due(name + "classOf " + v, cote.classOf(2, v), refined[v]);
-            CHECK.due(name + "placeOf " + v, cote.placeOf(2, v), places[v]);
-            CHECK.due(name + "orbit " + v, cote.orbit(2, v), orbits[v]);
-            CHECK.due(name + "image " + v, cote.image(2, 2, v), v);
-        }
-        CHECK.due(name + "copies", cote.copies(2, 2), 1);
+        String name = size + " vertices, edges " + edges + ", ";
+        Comparison.compare(CHECK, name, cote, 2, graph);
     }
 }

@@ -206,6 +206,11 @@ final class FormsTest {
         Shapes.build(cote, 3, 3, "01 02");
         imagesAre(cote, 2, 3, "102");
         imagesAre(cote, 3, 2, "102");
+        // One class by refinement, but the lowest vertices don't fit: the search has to go back.
+        Shapes.build(cote, 2, 7, "01 12 23 30 45 56 64");
+        Shapes.build(cote, 3, 7, "01 12 20 34 45 56 63");
+        imagesAre(cote, 2, 3, "3456012");
+        imagesAre(cote, 3, 2, "4560123");
     }
 
     private static void copiesInTheCube() {
