@@ -29,7 +29,7 @@ final class Check {
     }
 
     /** A class below the wanted one is wrong, too: the machine's own exceptions stand there. */
-    private void throwsExactly(String call, Runnable runnable, Class<?> wanted) {
+    void throwsExactly(String call, Runnable runnable, Class<?> wanted) {
         String thrown = "nothing";
         try {
             runnable.run();
