@@ -461,6 +461,8 @@ public final class CanonCote {
         private static final int LOWEST_SIZE_BIT = 52;
         private static final int BITS_OF_A_PLACE = 3;
         private static final int LAST_PLACE = MOST_VERTICES - 1;
+        private static final int ABOVE_ALL_EDGES = 1 << LOWEST_COLOUR_BIT;
+        private static final int ABOVE_ALL_PLACES = 1 << BITS_OF_A_PLACE * MOST_VERTICES;
         private static final int[] LOWEST_EDGE_BIT = {21, 15, 10, 6, 3, 1, 0, 0};
 
         private int leastEdges;
@@ -481,7 +483,7 @@ public final class CanonCote {
         private void search(Graph graph) {
             findTwins(graph);
             shareOutByColours(graph);
-            leastEdges = Integer.MAX_VALUE;
+            leastEdges = ABOVE_ALL_EDGES;
             arrange(this, graph, 0, 0);
         }
 
@@ -556,7 +558,7 @@ public final class CanonCote {
         private void meet(int size, int edges) {
             if (edges < leastEdges) {
                 leastEdges = edges;
-                leastPlaces = Integer.MAX_VALUE;
+                leastPlaces = ABOVE_ALL_PLACES;
                 met = 0;
                 Arrays.fill(seenAt, 0);
             }

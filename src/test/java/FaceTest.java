@@ -8,6 +8,8 @@ import java.nio.file.Path;
 import java.util.Arrays;
 import java.util.Set;
 import java.util.TreeSet;
+import java.util.regex.Matcher;
+import java.util.regex.Pattern;
 
 /** The public face of the document, and those rules of LANGUAGE.md that a test can look at. */
 final class FaceTest {
@@ -46,6 +48,12 @@ final class FaceTest {
         "Exact(", "import java.util.*", "@", "interface ", "Random", "Object", " + \"", "\" + ",
     };
 
+    private static final Pattern LIBRARY = Pattern.compile(
+            "\\b(Arrays|Integer|Long|Math|String|StringBuilder|Character|Boolean|List|ArrayList)\\.\\w+");
+
+    /** What the source takes from the library; LANGUAGE.md's rule 4 has to list each one. */
+    private static final Set<String> LISTED = Set.of("Arrays.fill", "Integer.bitCount", "Math.min");
+
     public static void main(String[] args) throws IOException {
         Check check = new Check("FaceTest");
         check.due("NONE", CanonCote.NONE, -1);
@@ -68,6 +76,7 @@ final class FaceTest {
         }
         check.due("face " + methods, methods.equals(new TreeSet<>(Arrays.asList(FACE))), true);
         checkPrivateNames(check, face, publicNames);
+        check.due("more than twelve classes", face.getDeclaredClasses().length + 1 > 12, false);
         for (Class<?> inside : face.getDeclaredClasses()) {
             check.due(inside + " is static", Modifier.isStatic(inside.getModifiers()), true);
             check.due(inside + " is not public", Modifier.isPublic(inside.getModifiers()), false);
@@ -89,10 +98,13 @@ final class FaceTest {
             }
             check.due(method + " takes more than seven", method.getParameterCount() > 7, false);
         }
+        int fields = 0;
         for (Field field : holder.getDeclaredFields()) {
             boolean isStatic = Modifier.isStatic(field.getModifiers());
             check.due(field + " is static, not final", isStatic && !Modifier.isFinal(field.getModifiers()), false);
+            fields += isStatic ? 0 : 1;
         }
+        check.due(holder + " has more than twenty fields", fields > 20, false);
     }
 
     private static String told(Method method) {
@@ -115,6 +127,10 @@ final class FaceTest {
         for (String line : source.split("\n")) {
             boolean isForeign = line.startsWith("import ") && !line.equals("import java.util.Arrays;");
             check.due("foreign: " + line, isForeign, false);
+        }
+        Matcher used = LIBRARY.matcher(source);
+        while (used.find()) {
+            check.due(used.group() + " is listed", LISTED.contains(used.group()), true);
         }
     }
 }
